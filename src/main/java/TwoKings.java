@@ -820,7 +820,7 @@ public final class TwoKings {
 
         /** Whether the byte here is one of these. */
         final boolean isOn(String signs) {
-            return at < end && signs.indexOf((char) tape.byteAt(at)) >= 0;
+            return at < end && at < Tape.LONGEST && signs.indexOf((char) tape.bytes[at]) >= 0;
         }
 
         /** Goes on if the byte here is one of these; whether it did. */
@@ -1188,6 +1188,9 @@ public final class TwoKings {
 
         /** Adds a LINE to those that are in already; whether they agree then. */
         private boolean agrees(int left, int sign, int right) {
+            if (outside(left, 0, ACTS - 1) || outside(right, 0, ACTS - 1)) {
+                return true;
+            }
             if (sign == '=') {
                 joinActs(left, right);
             } else {

@@ -11,6 +11,7 @@ public final class BreathTest {
         letters();
         meetings();
         lastBreath();
+        otherLaws();
         Random random = new Random(1807);
         for (int i = 0; i < 3000; i++) {
             compareFault(random);
@@ -208,6 +209,27 @@ public final class BreathTest {
         Kit.due("none is tried", x.tried(1, 0), 0);
         Kit.due("nothing is drawn", x.count(6), draws);
         Kit.due("keep there", x.keep(), 9999);
+    }
+
+    /** What a LAW leaves behind must not matter to the next one; all of sixteen RULES are asked. */
+    private static void otherLaws() {
+        TwoKings x = kings(50, 50);
+        StringBuilder sixteen = new StringBuilder();
+        for (int i = 0; i < 15; i++) {
+            sixteen.append("d").append(i + 1).append("(b=").append(i).append(");");
+        }
+        sixteen.append("x(b>99)");
+        Kit.dueLaw(x, sixteen.toString(), 16);
+        Kit.due("sixteen RULES", x.tried(3, 30), 1 + 2 + 4);
+        Kit.dueLaw(x, Kit.times("x(1=2)", 15, ";") + ";x(k=1)", 16);
+        Kit.due("the sixteenth RULE", x.leaves(1, 0), 1);
+        Kit.dueLaw(x, "f1(1=1);h(1=1);x(1=1)", 3);
+        Kit.dueLaw(x, "f1(1=2)", 1);
+        Kit.due("no x", x.leaves(5, 0), -2);
+        Kit.due("no f", x.tried(5, 10), 50);
+        Kit.dueLaw(x, "h(k=0);x(1=1);f9(1=1", -1020);
+        Kit.due("no h of a FAULT", x.tried(5, 20), 0);
+        Kit.due("no x of a FAULT", x.tried(5, 0), 5);
     }
 
     // ---- a second reading of THE LAW
