@@ -230,11 +230,11 @@ public final class TwoKings {
         if (outside(what, 0, ACTS - 1) && what != 100) {
             return NONE;
         }
-        if (what != 100 && !treaty.names(what)) {
-            return NOT_NAMED;
-        }
         if (treaty.contradiction != NONE) {
             return CONTRADICTED;
+        }
+        if (what != 100 && !treaty.names(what)) {
+            return NOT_NAMED;
         }
         return what == 100 ? treaty.lastMoment() : treaty.momentOf(what);
     }
@@ -243,11 +243,11 @@ public final class TwoKings {
         if (outside(a, 0, ACTS - 1) || outside(what, 0, 1)) {
             return NONE;
         }
-        if (!treaty.names(a)) {
-            return NOT_NAMED;
-        }
         if (treaty.contradiction != NONE) {
             return CONTRADICTED;
+        }
+        if (!treaty.names(a)) {
+            return NOT_NAMED;
         }
         return what == 0 ? treaty.atOnceWith(a) : treaty.aheadOf(a);
     }

@@ -34,6 +34,17 @@ public final class TreatyTest {
         Kit.due("then -3", x.moments(0), -3);
         Kit.due("then -3 of 100", x.moments(100), -3);
         Kit.due("then -3 of act", x.act(0, 1), -3);
+        // Of an ACT that it does not name, too; what is no ACT at all stays NONE.
+        Kit.due("then -3 of one not named", x.moments(15), -3);
+        Kit.due("then -3 of act of one not named", x.act(15, 0), -3);
+        Kit.due("then -3 of act 1 of one not named", x.act(15, 1), -3);
+        Kit.due("no such ACT", x.moments(16), -1);
+        Kit.due("no such ACT of act", x.act(16, 0), -1);
+        Kit.due("no such what of act", x.act(15, 2), -1);
+        // A TREATY in its place that does not contradict itself.
+        Kit.treaty(x, "a<b");
+        Kit.due("not named again", x.moments(15), -2);
+        Kit.due("act not named again", x.act(15, 1), -2);
         Kit.treaty(x, Kit.times("o<p", 23, ";") + ";p<o");
         Kit.due("contradicts by the 24th", x.moments(101), 23);
         Kit.treaty(x, "p<o;o<n;n<m;m<l;l<k;k<j;j<i;i<h;h<g;g<f;f<e;e<d;d<c;c<b;b<a");
@@ -132,8 +143,10 @@ public final class TreatyTest {
                 Kit.due(text + " act 0 of " + a, x.act(a, 0), at == null ? -3 : bits(text, lines, a, false));
                 Kit.due(text + " act 1 of " + a, x.act(a, 1), at == null ? -3 : bits(text, lines, a, true));
             } else {
-                Kit.due(text + " moments " + a, x.moments(a), -2);
-                Kit.due(text + " act 0 of " + a, x.act(a, 0), -2);
+                int due = at == null ? -3 : -2;
+                Kit.due(text + " moments " + a, x.moments(a), due);
+                Kit.due(text + " act 0 of " + a, x.act(a, 0), due);
+                Kit.due(text + " act 1 of " + a, x.act(a, 1), due);
             }
         }
         Kit.due(text + " moments 100", x.moments(100), last);
