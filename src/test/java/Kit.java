@@ -1,17 +1,47 @@
+import java.io.IOException;
+import java.nio.file.Files;
+import java.nio.file.Path;
 import java.util.Random;
 
 /** What the tests share: telling wrong answers, and putting texts and bytes on the tape. */
 final class Kit {
     private static int wrong = 0;
+    private static int sentences = 0;
+    private static String said = "";
+    private static String document = "";
 
     private Kit() { }
+
+    /** Begins the test of one sentence of the document: it must stand there, word for word. */
+    static void says(String sentence) {
+        said = "\"" + sentence + "\": ";
+        sentences++;
+        due("the document says so", document().contains(sentence), true);
+    }
+
+    private static String document() {
+        if (document.isEmpty()) {
+            try {
+                document = Files.readString(Path.of("../shared/DOC.md"));
+            } catch (IOException e) {
+                throw new IllegalStateException("the tests run where ../shared is", e);
+            }
+        }
+        return document;
+    }
 
     static void due(String call, long got, long want) {
         if (got != want) {
             wrong++;
             if (wrong <= 40) {
-                System.out.println(call + " answered " + got + ", due is " + want);
+                System.out.println(said + call + " answered " + got + ", due is " + want);
             }
+        }
+    }
+
+    static void due(String call, String got, String want) {
+        if (!got.equals(want)) {
+            due(call + ": " + got + " instead of " + want, 0, 1);
         }
     }
 
@@ -20,7 +50,8 @@ final class Kit {
     }
 
     static void end() {
-        System.out.println(wrong == 0 ? "all answers are as due" : wrong + " answers are not as due");
+        String of = sentences == 0 ? "" : " (" + sentences + " sentences)";
+        System.out.println((wrong == 0 ? "all answers are as due" : wrong + " answers are not as due") + of);
         if (wrong != 0) {
             System.exit(1);
         }
@@ -36,6 +67,20 @@ final class Kit {
             }
             x.feed(words[0], words[1], words[2], words[3], words[4]);
         }
+    }
+
+    /** Feeds so many times twenty bytes of 0. */
+    static void zeros(TwoKings x, int times) {
+        for (int i = 0; i < times; i++) {
+            x.feed(0, 0, 0, 0, 0);
+        }
+    }
+
+    static TwoKings kings(int first, int other) {
+        TwoKings x = new TwoKings();
+        x.king(0, first, false);
+        x.king(1, other, false);
+        return x;
     }
 
     static void text(TwoKings x, String text) {

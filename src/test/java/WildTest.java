@@ -1,6 +1,7 @@
 import java.lang.reflect.Method;
 import java.lang.reflect.Modifier;
 import java.util.ArrayList;
+import java.util.Arrays;
 import java.util.Comparator;
 import java.util.List;
 import java.util.Random;
@@ -19,31 +20,37 @@ public final class WildTest {
         }
         calls.sort(Comparator.comparing(Method::getName));
         Kit.due("calls of the face", calls.size(), 30);
-        for (int i = 0; i < 300; i++) {
+        for (int i = 0; i < 4000; i++) {
             wildRun(calls);
         }
         Kit.end();
     }
 
+    /** Some calls, then one that is looked at: all within the 512 that an object is used for. */
     private static void wildRun(List<Method> calls) throws Exception {
         TwoKings x = new TwoKings();
-        for (int i = 0; i < 120; i++) {
-            if (RANDOM.nextInt(3) == 0) {
-                Kit.text(x, someText());
-            }
-            Method call = calls.get(RANDOM.nextInt(calls.size()));
-            Object[] with = new Object[call.getParameterCount()];
-            for (int j = 0; j < with.length; j++) {
-                with[j] = call.getParameterTypes()[j] == boolean.class ? (Object) RANDOM.nextBoolean() : someNumber();
-            }
-            String before = Kit.picture(x);
-            Object answer = call.invoke(x, with);
-            boolean isCheck = call.getName().equals("check");
-            boolean refused = answer instanceof Boolean ? !(Boolean) answer : ((Number) answer).longValue() == -1;
-            if (refused && !isCheck) {
-                Kit.due(call.getName() + " " + java.util.Arrays.toString(with) + " is refused and changes nothing",
-                        Kit.picture(x).equals(before), true);
-            }
+        int ahead = RANDOM.nextInt(60);
+        for (int i = 0; i < ahead; i++) {
+            wildCall(x, calls.get(RANDOM.nextInt(calls.size())), false);
+        }
+        wildCall(x, calls.get(RANDOM.nextInt(calls.size())), true);
+    }
+
+    private static void wildCall(TwoKings x, Method call, boolean looked) throws Exception {
+        if (RANDOM.nextInt(3) == 0) {
+            Kit.text(x, someText());
+        }
+        Object[] with = new Object[call.getParameterCount()];
+        for (int j = 0; j < with.length; j++) {
+            with[j] = call.getParameterTypes()[j] == boolean.class ? (Object) RANDOM.nextBoolean() : someNumber();
+        }
+        String before = looked ? Kit.picture(x) : "";
+        Object answer = call.invoke(x, with);
+        boolean isCheck = call.getName().equals("check");
+        boolean refused = answer instanceof Boolean ? !(Boolean) answer : ((Number) answer).longValue() == -1;
+        if (looked && refused && !isCheck) {
+            Kit.due(call.getName() + " " + Arrays.toString(with) + " is refused and changes nothing",
+                    Kit.picture(x), before);
         }
     }
 
