@@ -18,6 +18,7 @@ public final class BreathBoundsTest {
         greatestOffence();
         offenceBehindTheMove();
         bothMayLeave();
+        hatAsItSays();
         lastBreath();
         numbersOfBreaths();
         breaths();
@@ -268,6 +269,25 @@ public final class BreathBoundsTest {
         return x;
     }
 
+    private static void hatAsItSays() {
+        Kit.says("the HAT as h says.");
+        // Each of the two, on and off, by an h that holds for one, both, none, and by none at all.
+        String[] laws = {"h(1=1)", "h(k=0)", "h(k=1)", "h(1=2)", "f0(1=1)"};
+        int[][] hats = {{0, 0}, {0, 1}, {1, 0}, {1, 1}, {-1, -1}};
+        for (int i = 0; i < laws.length; i++) {
+            for (int was = 0; was <= 3; was++) {
+                TwoKings x = Kit.kings(9, 9);
+                Kit.orders(x, ((was & 1) != 0 ? "0h" : "0o") + ((was & 2) != 0 ? ";1h" : ";1o"));
+                Kit.law(x, laws[i]);
+                x.breaths(1);
+                for (int k = 0; k <= 1; k++) {
+                    int want = hats[i][k] == -1 ? was >> k & 1 : hats[i][k];
+                    Kit.due("HAT of " + k + " by " + laws[i] + " from " + was, x.kingIs(k, 3), want);
+                }
+            }
+        }
+    }
+
     private static void lastBreath() {
         Kit.says("THE BREATH is one more (9999 at most: then none goes by).");
         for (int lacking = 0; lacking <= 2; lacking++) {
@@ -378,6 +398,12 @@ public final class BreathBoundsTest {
     }
 
     private static void meet() {
+        Kit.says("MEET: behind how many of n BREATHS they have MET");
+        for (int n = 1; n <= 5; n++) {
+            TwoKings near = Kit.kings(3, 2);
+            Kit.law(near, "f1(1=1)");
+            Kit.due("in " + n, near.meet(n, 0), n < 3 ? -2 : 3);
+        }
         Kit.says("what 0 behind how many (0: they have)");
         TwoKings x = new TwoKings();
         Kit.due("they have", x.meet(1, 0), 0);
@@ -415,13 +441,30 @@ public final class BreathBoundsTest {
             Kit.due("who of " + one[0] + " and " + one[1], x.meet(9, 1), one[2]);
             Kit.due("behind how many", x.meet(9, 0), Math.max(one[0], one[1]));
         }
-        TwoKings x = Kit.kings(3, 5);
+        Kit.says("who had no STEPS LEFT first (both at once: 2).");
+        TwoKings x = Kit.kings(9, 9);
+        Kit.law(x, "f9(1=1)");
+        Kit.due("both at once", x.meet(1, 1), 2);
+        // He who was there first, though the other one had fewer STEPS LEFT for a long time.
+        x = Kit.kings(9, 2);
+        Kit.law(x, "f9(k=0);f1(k=1&t>0)");
+        Kit.due("the farther one was first", x.meet(9, 1), 0);
+        Kit.due("behind how many", x.meet(9, 0), 3);
+        x = Kit.kings(3, 5);
         Kit.law(x, "f1(1=1)");
         x.breaths(5);
         Kit.due("MET now, one behind the other", x.meet(9, 1), 2);
     }
 
     private static void leaves() {
+        Kit.says("LEAVES: who LEAVES first in n BREATHS (both: 2), behind how many.");
+        TwoKings one = Kit.kings(99, 99);
+        Kit.law(one, "x(k=1&t=4);x(k=0&t=5)");
+        Kit.due("the first of them", one.leaves(240, 0), 1);
+        Kit.due("behind how many the first of them", one.leaves(240, 1), 5);
+        Kit.law(one, "x(k=1&t=4);x(k=0&t=4)");
+        Kit.due("both", one.leaves(240, 0), 2);
+        Kit.due("behind how many both", one.leaves(240, 1), 5);
         Kit.says("what 0 who (0, 1, 2), 1 behind how many (0: one has); -2: nobody; NONE: no such ones.");
         String[] laws = {"x(k=0&t=?)", "x(k=1&t=?)", "x(t=?)"};
         for (int who = 0; who <= 2; who++) {
@@ -503,7 +546,19 @@ public final class BreathBoundsTest {
         for (int what : new int[] {-1, 5, 6, 10, Integer.MAX_VALUE, Integer.MIN_VALUE}) {
             Kit.due("what " + what, x.nearer(5, what), -1);
         }
-        Kit.says("(of those that go by)");
+        Kit.says("NEARER: at the end of how many of n BREATHS (of those that go by) KING 0 had fewer STEPS LEFT, "
+                + "KING 1 had, both as many");
+        int[][] nearerNow = {{10, 20, 0}, {20, 10, 1}, {10, 10, 2}, {10, 11, 0}, {11, 10, 1}};
+        for (int[] now : nearerNow) {
+            x = Kit.kings(now[0], now[1]);
+            for (int what = 0; what <= 2; what++) {
+                Kit.due("nearer " + what + " of " + now[0] + " and " + now[1], x.nearer(7, what), what == now[2] ? 7 : 0);
+            }
+        }
+        x = Kit.kings(12, 10);
+        Kit.law(x, "f3(k=0&t=0)");
+        Kit.due("at the end, not at the beginning", x.nearer(1, 0), 1);
+        Kit.due("KING 1 had fewer at the beginning alone", x.nearer(1, 1), 0);
         Kit.due("when they have MET", new TwoKings().nearer(9, 2), 0);
         x = Kit.kings(5, 4);
         Kit.law(x, "x(t=2)");

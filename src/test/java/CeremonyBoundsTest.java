@@ -4,6 +4,8 @@ import java.util.Arrays;
 public final class CeremonyBoundsTest {
     private static final int BIG = Integer.MAX_VALUE;
     private static final int SMALL = Integer.MIN_VALUE;
+    private static TwoKings used = new TwoKings();
+    private static int uses = 0;
 
     public static void main(String[] args) {
         laneFaults();
@@ -12,12 +14,15 @@ public final class CeremonyBoundsTest {
         laneMoves();
         laneLength();
         signing();
+        signingAtOneTime();
         signingWho();
         titles();
         titleOfZero();
+        titlesInOrder();
         titlesAtOnce();
         gifts();
         cushions();
+        cushionsAlike();
         cushionOfZero();
         cushionsThatCannot();
         cushionsOfLikeOnes();
@@ -29,15 +34,25 @@ public final class CeremonyBoundsTest {
         tent();
         tentOfLikeOnes();
         stairs();
+        stairWays();
         stairSteps();
         heralds();
         Kit.end();
     }
 
+    /** Mostly one that has been used: what earlier calls left behind must not matter. */
+    private static TwoKings some() {
+        uses++;
+        if (uses % 15 == 0) {
+            used = new TwoKings();
+        }
+        return used;
+    }
+
     // ---- A LANE
 
     private static int lane(String row, int what) {
-        TwoKings x = new TwoKings();
+        TwoKings x = some();
         Kit.text(x, row);
         int answer = x.lane(row.length(), what);
         Kit.due("the tape behind lane " + row, x.count(5), 0);
@@ -83,12 +98,25 @@ public final class CeremonyBoundsTest {
     private static void laneWithoutMoves() {
         Kit.says("what 0 moves, 1 the place (no move: -4)");
         for (String row : new String[] {"..", "<>", ">>", "<<", ".>", ">.", ".<", "<.", "<.>", "<<>>", "<<<<>>>>>", ".........",
-            ">>>>>>>>>", "<........", "........>"}) {
+            ">>>>>>>>>", "<<<<<<<<<", "<........", "........>", ".<<<<<<<<", ">>>>>>>>."}) {
             dueLane(row, 0, -4);
         }
     }
 
     private static void laneMoves() {
+        Kit.says("> (62: a mule that goes to the right), < (60: to the left), dots (46: free)");
+        Kit.due("the bytes", lane("" + (char) 62 + (char) 60 + (char) 46, 0), 1);
+        // Neither goes back, however free it is there.
+        dueLane(".>><", -2, -2);
+        dueLane("><<.", -2, -2);
+        dueLane("..>><", -2, -2);
+        Kit.says("the fewest moves till no mule that goes to the right has one that goes to the left to its right");
+        dueLane("<.><", 1, 3);
+        dueLane("<.><>", 1, 3);
+        dueLane("><.><.", 4, 0);
+        // Far from each other, but one has the other one to its right.
+        dueLane(">......<", 7, 0);
+        dueLane("<......>", 0, -4);
         Kit.says("a mule goes one place on if that is free, or over one mule that goes the other way "
                 + "if the place behind it is free");
         dueLane("><.", 1, 0);
@@ -100,6 +128,12 @@ public final class CeremonyBoundsTest {
         dueLane(">><.", 3, 1);
         dueLane("><.<", 3, 0);
         dueLane(">>.<", 4, 1);
+        dueLane("><>.", 2, 2);
+        dueLane(".<><", 2, 1);
+        dueLane("><>>.", 3, 3);
+        dueLane(".<<><", 3, 1);
+        dueLane(">>..<", 5, 1);
+        dueLane(">..<<", 5, 0);
         Kit.says("the place of the mule that moves first (the lowest of those that do as well).");
         dueLane(".><.", 1, 1);
         dueLane("..><..", 1, 2);
@@ -122,7 +156,7 @@ public final class CeremonyBoundsTest {
     // ---- SIGNING
 
     private static void dueSigning(int time, int who, int... minutes) {
-        TwoKings x = new TwoKings();
+        TwoKings x = some();
         String name = "signing " + Arrays.toString(minutes);
         Kit.bytes(x, minutes);
         Kit.due(name, x.signing(minutes.length / 2, 0), time);
@@ -151,6 +185,18 @@ public final class CeremonyBoundsTest {
         }
     }
 
+    private static void signingAtOneTime() {
+        Kit.says("one copy by one at a time, each signs one at a time, in any order: the least time");
+        // All of one KING's work, all of the other one's, or one copy by both: none can take less.
+        dueSigning(10, 0, 3, 4, 2, 3, 5, 1);
+        dueSigning(11, 1, 3, 4, 2, 5, 5, 2);
+        dueSigning(12, 2, 6, 6, 2, 3, 1, 1);
+        // No copy waits for another one, whichever comes first.
+        dueSigning(9, 0, 1, 8, 8, 1);
+        dueSigning(9, 0, 8, 1, 1, 8);
+        dueSigning(9, 0, 4, 4, 4, 4, 1, 1);
+    }
+
     private static void signingWho() {
         Kit.says("whose work it is that takes so long (0, 1; one copy's: 2; of like ones the lowest)");
         dueSigning(6, 0, 3, 3, 3, 3);
@@ -172,7 +218,7 @@ public final class CeremonyBoundsTest {
         int[] bytes = Arrays.copyOf(first, first.length + other.length);
         System.arraycopy(other, 0, bytes, first.length, other.length);
         String name = "titles " + Arrays.toString(first) + " " + Arrays.toString(other);
-        TwoKings x = new TwoKings();
+        TwoKings x = some();
         Kit.bytes(x, bytes);
         Kit.due(name, x.titles(first.length, other.length, 0), breaths);
         Kit.due(name + ": the tape", x.count(5), 0);
@@ -227,6 +273,20 @@ public final class CeremonyBoundsTest {
         }
     }
 
+    private static void titlesInOrder() {
+        Kit.says("some are read at once, in order, the shorter one waits; others alone (the other herald waits)");
+        // The long ones can't be read at once: another order would do with 22.
+        dueTitles(22, 1, new int[] {1, 20}, new int[] {20, 1});
+        dueTitles(21, 2, new int[] {1, 20}, new int[] {1, 20});
+        // One alone ahead, between, behind.
+        dueTitles(27, 2, new int[] {7, 9, 11}, new int[] {9, 11});
+        dueTitles(27, 2, new int[] {9, 7, 11}, new int[] {9, 11});
+        dueTitles(27, 2, new int[] {9, 11, 7}, new int[] {9, 11});
+        dueTitles(27, 2, new int[] {9, 11}, new int[] {9, 11, 7});
+        // The shorter one waits: its rest is not used by the next one.
+        dueTitles(20, 1, new int[] {5, 5}, new int[] {15});
+    }
+
     private static void titlesAtOnce() {
         Kit.says("the least breaths till both have read all; how many are read at once at most by that.");
         dueTitles(4, 2, new int[] {1, 2}, new int[] {2, 1});
@@ -239,7 +299,7 @@ public final class CeremonyBoundsTest {
     // ---- GIFTS
 
     private static void dueGifts(int greatest, int sum, int... worth) {
-        TwoKings x = new TwoKings();
+        TwoKings x = some();
         String name = "gifts " + Arrays.toString(worth);
         Kit.bytes(x, worth);
         Kit.due(name, x.gifts(worth.length / 2, 0), greatest);
@@ -269,6 +329,10 @@ public final class CeremonyBoundsTest {
             worth[2 * n - 1] = 7;
             dueGifts(7, 7, worth);
         }
+        Kit.says("each opened with one of the other's");
+        // One that would fit two is opened with one alone.
+        dueGifts(9, 9, 10, 19, 10, 10);
+        dueGifts(8, 16, 2, 2, 10, 10);
         Kit.says("so that the greatest difference is least; that; the least sum of all differences by which it is so.");
         dueGifts(5, 10, 0, 5, 5, 10);
         dueGifts(10, 12, 0, 9, 10, 11);
@@ -278,7 +342,7 @@ public final class CeremonyBoundsTest {
 
     private static void dueCushions(int first, int second, int[] want, int... heights) {
         for (int what = 0; what <= 2; what++) {
-            TwoKings x = new TwoKings();
+            TwoKings x = some();
             Kit.bytes(x, heights);
             String name = "cushions " + Arrays.toString(heights) + " " + first + " " + second + " what " + what;
             Kit.due(name, x.cushions(heights.length, first, second, what), want[what]);
@@ -307,6 +371,28 @@ public final class CeremonyBoundsTest {
             heights[n - 1] = 7;
             dueCushions(0, 7, new int[] {7 + 30 * ((n - 1) / 2), (1 << (n - 1) / 2) - 1 | 1 << n - 1,
                 (1 << (n - 1) / 2) - 1 << (n - 1) / 2}, heights);
+        }
+    }
+
+    private static void cushionsAlike() {
+        Kit.says("so that both sit alike");
+        for (int first = 0; first <= 40; first++) {
+            int apart = Math.abs(first - 20);
+            // One cushion of 5 and one of 9: alike by none, by one of them, or by both (4 and 14 apart).
+            boolean can = apart == 0 || apart == 5 || apart == 9 || apart == 4 || apart == 14;
+            TwoKings x = new TwoKings();
+            Kit.bytes(x, 5, 9);
+            int high = x.cushions(2, first, 20, 0);
+            Kit.due("alike from " + first, high != -2, can);
+            Kit.bytes(x, 5, 9);
+            int under = x.cushions(2, first, 20, 1);
+            Kit.bytes(x, 5, 9);
+            int other = x.cushions(2, first, 20, 2);
+            if (can) {
+                Kit.due("the first one from " + first, first + 5 * (under & 1) + 9 * (under >> 1), high);
+                Kit.due("the second one from 20", 20 + 5 * (other & 1) + 9 * (other >> 1), high);
+                Kit.due("no cushion under both", under & other, 0);
+            }
         }
     }
 
@@ -361,7 +447,7 @@ public final class CeremonyBoundsTest {
 
     private static void dueTable(int ways, int fewest, int[] least, int... mustNot) {
         int n = mustNot.length;
-        TwoKings x = new TwoKings();
+        TwoKings x = some();
         String name = "table " + Arrays.toString(mustNot) + " ";
         Kit.bytes(x, mustNot);
         Kit.due(name + 100, x.table(n, 100), ways);
@@ -377,6 +463,7 @@ public final class CeremonyBoundsTest {
         Kit.bytes(x, mustNot);
         Kit.due(name + n, x.table(n, n), -1);
         Kit.due(name + n + ": the tape stays", x.count(5), 20);
+        Kit.due(name + ": the tape for the next", x.table(n, 100), ways);
     }
 
     private static void table() {
@@ -406,6 +493,17 @@ public final class CeremonyBoundsTest {
     }
 
     private static void tableRound() {
+        Kit.says("KING 0's sit still, one after the other (0 on)");
+        // Each of KING 1's may sit behind one alone: he must not sit beside all others but that one and the next.
+        for (int n = 3; n <= 6; n++) {
+            int[] mustNot = new int[n];
+            int[] row = new int[n];
+            for (int i = 0; i < n; i++) {
+                mustNot[i] = (1 << n) - 1 & ~(1 << i | 1 << (i + 1) % n);
+                row[i] = i;
+            }
+            dueTable(1, 0, row, mustNot);
+        }
         Kit.says("one of KING 1's sits between each and the next (the last and the first, too)");
         dueTable(1, 0, new int[] {0, 1, 2}, 4, 1, 2);
         dueTable(1, 0, new int[] {2, 0, 1}, 1, 2, 4);
@@ -416,6 +514,12 @@ public final class CeremonyBoundsTest {
         dueTable(2, 0, new int[] {0, 2, 1}, 0, 0, 1);
         dueTable(2, 0, new int[] {2, 0, 1}, 0, 0, 4);
         dueTable(1, 0, new int[] {5, 4, 3, 2, 1, 0}, 30, 15, 39, 51, 57, 60);
+        Kit.says("each of these has some (bits) beside whom he must not sit: in how many ways nobody must not; the least row; "
+                + "the fewest that sit beside one whom they must not, in any way.");
+        // Of four the third must not sit beside 0 and 1: he sits behind 2 alone, the others as they like.
+        dueTable(6, 0, new int[] {0, 1, 2, 3}, 0, 0, 3, 0);
+        // The fourth, too: one of the two sits so.
+        dueTable(0, 1, null, 0, 0, 3, 3);
         Kit.says("101 the fewest that sit so");
         dueTable(0, 1, null, 0, 7, 0);
         dueTable(0, 2, null, 7, 0, 7);
@@ -446,6 +550,11 @@ public final class CeremonyBoundsTest {
         dueDrums(999, 999, 1000, 999, 1000);
         dueDrums(999, 0, 1, 999, 1000);
         dueDrums(0, 0, 1000, 0, 1000);
+        Kit.says("one falls at a beat and each so many beats behind it (1 to 1000), the other one likewise");
+        dueDrums(7, 7, 1000, 0, 7);
+        dueDrums(7, 7, 1000, 1, 2);
+        dueDrums(1007, 7, 1000, 8, 999);
+        dueDrums(2007, 7, 1000, 9, 999);
         Kit.says("the first beat at which both fall.");
         dueDrums(10, 0, 5, 10, 5);
         dueDrums(10, 0, 1, 10, 1000);
@@ -471,7 +580,7 @@ public final class CeremonyBoundsTest {
     // ---- A TENT
 
     private static void dueTent(int cut, int unlike, int... breadths) {
-        TwoKings x = new TwoKings();
+        TwoKings x = some();
         String name = "tent " + Arrays.toString(breadths);
         Kit.bytes(x, breadths);
         Kit.due(name, x.tent(breadths.length, 0), cut);
@@ -501,6 +610,11 @@ public final class CeremonyBoundsTest {
     }
 
     private static void tentOfLikeOnes() {
+        Kit.says("cut behind a breadth");
+        // Never ahead of the first, never behind the last, however heavy these are.
+        dueTent(1, 200, 200, 0, 0);
+        dueTent(1, 253, 255, 1, 1);
+        dueTent(2, 253, 1, 1, 255);
         Kit.says("so that both halves are as alike as can be (of like ones the first cut)");
         dueTent(1, 2, 1, 2, 1);
         dueTent(1, 7, 0, 0, 7);
@@ -549,6 +663,18 @@ public final class CeremonyBoundsTest {
         Kit.due("40 stairs by 3", x.stairs(40, 3, 0), 23837527729L);
     }
 
+    private static void stairWays() {
+        Kit.says("STAIRS: one climbs n stairs (1 to 40) by one, two or k (3 to 5) at a time");
+        TwoKings x = new TwoKings();
+        // By k at a time, and not by what lies between two and k.
+        int[][] ways = {{3, 4, 7, 13, 24, 44}, {3, 3, 6, 10, 18, 31}, {3, 3, 5, 9, 15, 26}};
+        for (int k = 3; k <= 5; k++) {
+            for (int n = 4; n <= 7; n++) {
+                Kit.due(n + " stairs by " + k, x.stairs(n, k, 0), ways[k - 3][n - 2]);
+            }
+        }
+    }
+
     private static void stairSteps() {
         Kit.says("in how many ways; with just so many steps.");
         TwoKings x = new TwoKings();
@@ -589,6 +715,10 @@ public final class CeremonyBoundsTest {
             Kit.due("with one", x.heralds(n, 1), n + 1);
             Kit.due("one with some", x.heralds(1, n), n + 1);
         }
+        Kit.says("HERALDS: in how many rows two heralds' titles (unlike ones) can be read, one behind the other, "
+                + "never two at once, each herald's in order.");
+        Kit.due("two and two", x.heralds(2, 2), 6);
+        Kit.due("two and three", x.heralds(2, 3), 10);
         Kit.due("ten and ten", x.heralds(10, 10), 184756);
         Kit.due("ten and nine", x.heralds(10, 9), 92378);
         Kit.due("nine and ten", x.heralds(9, 10), 92378);

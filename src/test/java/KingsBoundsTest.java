@@ -11,6 +11,7 @@ public final class KingsBoundsTest {
         whatAKingBeginsWith();
         whatAKingLeavesAlone();
         met();
+        leftOrNot();
         tolerance();
         kingIs();
         seed();
@@ -172,6 +173,25 @@ public final class KingsBoundsTest {
         }
     }
 
+    private static void leftOrNot() {
+        Kit.says("he has LEFT or not.");
+        TwoKings x = Kit.kings(8, 9);
+        Kit.law(x, "x(k=1&t=1)");
+        for (int breath = 1; breath <= 2; breath++) {
+            x.breaths(1);
+            Kit.due("KING 0 behind " + breath, x.kingIs(0, 5), 0);
+            Kit.due("KING 1 behind " + breath, x.kingIs(1, 5), breath - 1);
+        }
+        // Neither another LAW nor ORDERS bring him back, only a KING anew does.
+        Kit.law(x, "f1(1=1)");
+        Kit.orders(x, "*f1;*h;*b5;*a9");
+        Kit.due("he has LEFT still", x.kingIs(1, 5), 1);
+        x.king(0, 8, false);
+        Kit.due("he has LEFT behind the other one's coming", x.kingIs(1, 5), 1);
+        x.king(1, 9, false);
+        Kit.due("he has not LEFT", x.kingIs(1, 5), 0);
+    }
+
     private static void tolerance() {
         Kit.says("`boolean tolerance(int steps, int degrees)`: TOLERANCE: true; false: no such ones.");
         TwoKings x = new TwoKings();
@@ -280,6 +300,13 @@ public final class KingsBoundsTest {
         x.breaths(1);
         Kit.due("undo to the last one", x.undo(), true);
         Kit.due("THE BREATH of the last one", x.count(0), 6);
+        // The one KEPT before that is gone: undo does not go back any further.
+        Kit.due("undo again and again", x.undo() && x.undo(), true);
+        Kit.due("THE BREATH of the last one still", x.count(0), 6);
+        // KEPT where nothing has changed since, and behind an undo.
+        Kit.due("keep the same", x.keep(), 6);
+        Kit.due("undo to the same", x.undo(), true);
+        Kit.due("THE BREATH of the same", x.count(0), 6);
     }
 
     private static void whatIsKept() {
@@ -363,11 +390,26 @@ public final class KingsBoundsTest {
     }
 
     private static void count() {
-        Kit.says("9 ACTS that the TREATY names (bits). NONE for others.");
+        Kit.says("NONE for others.");
         TwoKings x = new TwoKings();
         for (int what : new int[] {-1, 10, 11, 100, BIG, SMALL}) {
             Kit.due("count " + what, x.count(what), -1);
         }
+        Kit.says("0 THE BREATH, 1 whether they have MET (1, 0), 2 who has LEFT (bits), 3 LINES of the TREATY, 4 RULES, "
+                + "5 bytes of the tape, 6 X, 7 TOLERANCE of STEPS, 8 of degrees, 9 ACTS that the TREATY names (bits).");
+        x = Kit.kings(40, 50);
+        x.tolerance(17, 18);
+        Kit.law(x, "f1(k=0);f2(k=0);x(t=12);h(1=2)");
+        Kit.treaty(x, "a<b;c<d;e<f;g<h;i=j;k=l;m=n");
+        x.breaths(20);
+        x.seed(4321);
+        Kit.zeros(x, 2);
+        int[] want = {13, 0, 3, 7, 4, 40, 4321, 17, 18, 16383};
+        for (int what = 0; what <= 9; what++) {
+            Kit.due("count " + what, x.count(what), want[what]);
+        }
+        Kit.says("NONE = -1");
+        Kit.due("NONE", TwoKings.NONE, -1);
         Kit.says("2 who has LEFT (bits)");
         String[] laws = {"x(1=2)", "x(k=0)", "x(k=1)", "x(1=1)"};
         for (int bits = 0; bits <= 3; bits++) {

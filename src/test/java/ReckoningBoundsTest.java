@@ -304,6 +304,16 @@ public final class ReckoningBoundsTest {
             dueHolds(pair[0] + "=" + pair[1], pair[0] == pair[1]);
             dueHolds("0-" + pair[0] + "<0-" + pair[1], pair[0] > pair[1]);
             dueHolds("0-" + pair[0] + ">0-" + pair[1], pair[0] < pair[1]);
+            // A ! turns each of them round, and two turn it back.
+            for (char sign : new char[] {'<', '>', '='}) {
+                String test = pair[0] + "" + sign + pair[1];
+                boolean is = sign == '<' ? pair[0] < pair[1] : sign == '>' ? pair[0] > pair[1] : pair[0] == pair[1];
+                dueHolds("!" + test, !is);
+                dueHolds("!!" + test, is);
+                dueHolds("!(" + test + ")", !is);
+                dueHolds("!(" + test + "&1<2)", !is);
+                dueHolds("!(2<1|" + test + ")", !is);
+            }
         }
     }
 

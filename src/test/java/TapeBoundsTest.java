@@ -12,6 +12,7 @@ public final class TapeBoundsTest {
         order();
         full();
         numbers();
+        oneByteTooFew();
         firstBytes();
         whats();
         Kit.end();
@@ -103,6 +104,7 @@ public final class TapeBoundsTest {
         taken("tent", 2, 20, 1, (x, n) -> x.tent(n, 1));
     }
 
+    /** Of each call that reads the tape: what it takes, and what not. */
     private static void taken(String name, int least, int most, int bytesEach, Call call) {
         for (int fed = 0; fed <= 13; fed++) {
             TwoKings x = new TwoKings();
@@ -140,6 +142,45 @@ public final class TapeBoundsTest {
     private static void dueNone(String name, TwoKings x, int n, int bytes, Call call) {
         Kit.due(name + " " + n + " of " + bytes, call.on(x, n), -1);
         Kit.due(name + " " + n + ": the tape stays", x.count(5), bytes);
+    }
+
+    /** The tape grows by twenty: as many as it has are taken, one more is refused and leaves it. */
+    private static void oneByteTooFew() {
+        Kit.says("NONE: no such n, it has not so many (the tape stays).");
+        for (int fed = 0; fed <= 11; fed++) {
+            dueTooFew("law", fed, 20 * fed + 1, (x, n) -> x.law(n));
+        }
+        Kit.says("a FAULT; NONE: as above.");
+        for (int fed = 0; fed <= 5; fed++) {
+            dueTooFew("orders", fed, 20 * fed + 1, (x, n) -> x.orders(n));
+            dueTooFew("treaty", fed, 20 * fed + 1, (x, n) -> x.treaty(n));
+        }
+        Kit.says("NONE: no such ones, it has not so many (the tape stays).");
+        dueTooFew("lane", 0, 2, (x, n) -> x.lane(n, 0));
+        dueTooFew("lane", 0, 9, (x, n) -> x.lane(n, 1));
+        dueTooFew("signing", 0, 1, (x, n) -> x.signing(n, 0));
+        dueTooFew("signing", 1, 11, (x, n) -> x.signing(n, 1));
+        dueTooFew("signing", 1, 12, (x, n) -> x.signing(n, 0));
+        dueTooFew("titles", 0, 1, (x, n) -> x.titles(n, n, 0));
+        dueTooFew("titles", 0, 10, (x, n) -> x.titles(n, n, 1));
+        dueTooFew("gifts", 0, 1, (x, n) -> x.gifts(n, 0));
+        dueTooFew("gifts", 0, 8, (x, n) -> x.gifts(n, 1));
+        dueTooFew("cushions", 0, 1, (x, n) -> x.cushions(n, 0, 0, 0));
+        dueTooFew("cushions", 0, 8, (x, n) -> x.cushions(n, 0, 0, 2));
+        dueTooFew("table", 0, 2, (x, n) -> x.table(n, 100));
+        dueTooFew("table", 0, 6, (x, n) -> x.table(n, 5));
+        dueTooFew("tent", 0, 2, (x, n) -> x.tent(n, 0));
+        dueTooFew("tent", 0, 20, (x, n) -> x.tent(n, 1));
+    }
+
+    private static void dueTooFew(String name, int fed, int n, Call call) {
+        TwoKings x = new TwoKings();
+        Kit.zeros(x, fed);
+        dueNone(name, x, n, 20 * fed, call);
+        // Twenty more are enough for the same call, which then empties it.
+        Kit.zeros(x, 1);
+        Kit.due(name + " " + n + " of twenty more is NONE", call.on(x, n) == -1, false);
+        Kit.due(name + " " + n + " of twenty more: the tape is empty then", x.count(5), 0);
     }
 
     /** What stands behind the first n bytes does not matter, whatever it is. */

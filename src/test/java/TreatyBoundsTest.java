@@ -21,6 +21,7 @@ public final class TreatyBoundsTest {
         noSuchOnes();
         atOnce();
         ahead();
+        everyThree();
         Kit.end();
     }
 
@@ -179,12 +180,19 @@ public final class TreatyBoundsTest {
         Kit.dueTreaty(x, "a<b;b<a", 2);
         Kit.due("LINES of what CONTRADICTS itself", x.count(3), 2);
         Kit.due("ACTS of what CONTRADICTS itself", x.count(9), 3);
+        Kit.dueTreaty(x, "a<b;b<a;c<d;a=p", 4);
+        Kit.due("LINES behind the one that does", x.count(3), 4);
+        Kit.due("ACTS of LINES behind the one that does", x.count(9), 15 | 1 << 15);
         Kit.dueTreaty(x, "a<b", 1);
         Kit.due("no contradiction", x.moments(101), -2);
         Kit.due("MOMENTS", x.moments(100), 2);
     }
 
     private static void moments() {
+        Kit.says("ACTS that a TREATY names are done at MOMENTS 1 on");
+        TwoKings two = new TwoKings();
+        Kit.treaty(two, "n<o;p=n");
+        Kit.due("the MOMENTS of n, o, p", two.moments(13) * 100 + two.moments(14) * 10 + two.moments(15), 121);
         Kit.says("what 100 how many (no ACT: 0)");
         Kit.due("no TREATY", new TwoKings().moments(100), 0);
         StringBuilder chain = new StringBuilder();
@@ -229,7 +237,7 @@ public final class TreatyBoundsTest {
     }
 
     private static void contradictions() {
-        Kit.says("-3 (but of 101): it CONTRADICTS itself");
+        Kit.says("It CONTRADICTS itself if they can't.");
         String[] texts = {"a<b;b<a", "a=b;a<b", "a=b;b<a", "a<b;a=b", "a<b;b=a", "a<b;b<c;c<a", "a=b;b=c;a<c", "a<b;c<d;b=c;d=a",
             "a<b;b<c;c=a", "o<p;p<o", "a=b;c=d;a<c;d<b"};
         int[] lines = {1, 1, 1, 1, 1, 2, 2, 3, 2, 1, 3};
@@ -244,6 +252,14 @@ public final class TreatyBoundsTest {
                 Kit.due(texts[i] + " ahead of " + a, x.act(a, 1), -3);
             }
         }
+        Kit.says("-3 (but of 101): it CONTRADICTS itself");
+        TwoKings two = new TwoKings();
+        Kit.treaty(two, "a<b;b<a");
+        Kit.due("101", two.moments(101), 1);
+        Kit.due("100", two.moments(100), -3);
+        Kit.due("the first ACT", two.moments(0), -3);
+        Kit.due("the last ACT", two.moments(15), -3);
+        Kit.says("It CONTRADICTS itself if they can't.");
         String[] fine = {"a<b;a<b", "a=b;b=a", "a<b;b<c;a<c", "a=b;c=d;a<c;b<d", "a<b;c<b;a=c", "a=b;b=c;c=a"};
         for (String text : fine) {
             TwoKings x = new TwoKings();
@@ -254,6 +270,16 @@ public final class TreatyBoundsTest {
     }
 
     private static void firstLine() {
+        Kit.says("the first LINE with which it CONTRADICTS itself (by LINES ahead, with it)");
+        // The LINE that closes it, wherever the others stand; later ones do not matter, nor do later contradictions.
+        String[] texts = {"a<b;b<c;c<a;d<e;e<d", "d<e;a<b;b<c;e<d;c<a", "a<b;c=d;b<a;d<c", "a=b;c=d;a=c;d<b;e<f",
+            "e<f;a=b;b<a"};
+        int[] closing = {2, 3, 2, 3, 2};
+        for (int i = 0; i < texts.length; i++) {
+            TwoKings one = new TwoKings();
+            Kit.treaty(one, texts[i]);
+            Kit.due(texts[i], one.moments(101), closing[i]);
+        }
         Kit.says("101 the first LINE with which it CONTRADICTS itself (0 on; -2: it does not)");
         for (int line = 1; line <= 23; line++) {
             TwoKings x = new TwoKings();
@@ -295,16 +321,17 @@ public final class TreatyBoundsTest {
     }
 
     private static void noSuchOnes() {
-        Kit.says("else the MOMENT of ACT what (0 to 15)");
         String[] treaties = {"", "a<b;c=d", "a<b;b<a"};
         for (String text : treaties) {
             TwoKings x = new TwoKings();
             if (!text.isEmpty()) {
                 Kit.treaty(x, text);
             }
+            Kit.says("-3 (but of 101): it CONTRADICTS itself; NONE: no such ones.");
             for (int what : new int[] {-1, -2, -100, 16, 17, 31, 32, 64, 98, 99, 102, 103, 1000, BIG, SMALL}) {
                 Kit.due("moments " + what + " of " + text, x.moments(what), -1);
             }
+            Kit.says("else the MOMENT of ACT what (0 to 15)");
             for (int what : new int[] {0, 15, 100, 101}) {
                 Kit.due("moments " + what + " of " + text + " is known", x.moments(what) != -1, true);
             }
@@ -327,6 +354,14 @@ public final class TreatyBoundsTest {
     }
 
     private static void atOnce() {
+        Kit.says("what 0 those at once with it, 1 what must go before it (bits)");
+        TwoKings four = new TwoKings();
+        Kit.treaty(four, "a<b;b=c;c<d");
+        int[][] bits = {{1, 0}, {6, 1}, {6, 1}, {8, 7}};
+        for (int a = 0; a < 4; a++) {
+            Kit.due("act " + a + " 0", four.act(a, 0), bits[a][0]);
+            Kit.due("act " + a + " 1", four.act(a, 1), bits[a][1]);
+        }
         Kit.says("ACTS (bits) that are at once with one (itself, too)");
         TwoKings x = new TwoKings();
         Kit.dueTreaty(x, "a<b;c=d;e=d;f<c;p=o", 5);
@@ -361,6 +396,40 @@ public final class TreatyBoundsTest {
         Kit.dueTreaty(x, "g=h;c<g;f=a;e<d;d=c;b<c;a<b", 7);
         for (int a = 0; a < want.length; a++) {
             Kit.due("ahead of " + a + " by another order", x.act(a, 1), want[a]);
+        }
+    }
+
+    /** Three ACTS in every order: what follows by way of one of them, whichever it is and whichever LINE comes first. */
+    private static void everyThree() {
+        Kit.says("what must go before one (bits, by steps).");
+        for (int a = 0; a < 16; a++) {
+            for (int b = 0; b < 16; b++) {
+                for (int c = 0; c < 16; c++) {
+                    if (a != b && b != c && a != c) {
+                        dueThree("a<b", "b<c", a, b, c, 0, 1 << a, 1 << a | 1 << b);
+                        dueThree("a<c", "b<c", a, b, c, 0, 0, 1 << a | 1 << b);
+                        dueThree("a<b", "a<c", a, b, c, 0, 1 << a, 1 << a);
+                        dueThree("a=b", "b<c", a, b, c, 0, 0, 1 << a | 1 << b);
+                        dueThree("a<b", "b=c", a, b, c, 0, 1 << a, 1 << a);
+                    }
+                }
+            }
+        }
+    }
+
+    private static void dueThree(String one, String other, int a, int b, int c, int ofA, int ofB, int ofC) {
+        String lines = one + ";" + other;
+        String turned = other + ";" + one;
+        for (String text : new String[] {lines, turned}) {
+            StringBuilder named = new StringBuilder();
+            for (char sign : text.toCharArray()) {
+                named.append(sign == 'a' ? ACTS.charAt(a) : sign == 'b' ? ACTS.charAt(b) : sign == 'c' ? ACTS.charAt(c) : sign);
+            }
+            TwoKings x = new TwoKings();
+            Kit.dueTreaty(x, named.toString(), 2);
+            Kit.due(named + " ahead of the first", x.act(a, 1), ofA);
+            Kit.due(named + " ahead of the second", x.act(b, 1), ofB);
+            Kit.due(named + " ahead of the third", x.act(c, 1), ofC);
         }
     }
 }
