@@ -1304,7 +1304,7 @@ public final class TwoKings {
             add(packed(), NO_PLACE);
             moves = 0;
             int endOfMoves = tail;
-            for (int head = 0; head < tail; head++) {
+            for (int head = 0; head < tail && head < queue.length; head++) {
                 if (head == endOfMoves) {
                     moves++;
                     endOfMoves = tail;
@@ -1605,11 +1605,11 @@ public final class TwoKings {
                 right += tape.byteAt(i);
             }
             int left = 0;
-            best = Integer.MAX_VALUE;
+            best = NONE;
             for (int i = 1; i < n; i++) {
                 left += tape.byteAt(i - 1);
                 right -= tape.byteAt(i - 1);
-                if (Math.abs(left - right) < best) {
+                if (best == NONE || Math.abs(left - right) < best) {
                     best = Math.abs(left - right);
                     second = i;
                 }

@@ -16,6 +16,9 @@ public final class LanguageTest {
     public static void main(String[] args) throws Exception {
         face();
         words();
+        library();
+        loops();
+        nothingIsMade();
         methods();
         classes(TwoKings.class);
         Kit.end();
@@ -79,6 +82,98 @@ public final class LanguageTest {
         }
         for (int i = 0; i < source.length(); i++) {
             Kit.due("sign at " + i, source.charAt(i) >= 1 && source.charAt(i) <= 127, true);
+        }
+    }
+
+    private static String code() throws Exception {
+        return bare(Files.readString(Path.of("src/main/java/TwoKings.java")));
+    }
+
+    /** Rule 4: of the library only what stands there; of Integer, Long and Math it is functions alone. */
+    private static void library() throws Exception {
+        String allowed = "(Integer|Long|Math)\\.\\w+\\(|System\\.arraycopy\\(|Arrays\\.(copyOf|copyOfRange|fill)\\(|List\\.of\\(";
+        Matcher used = Pattern.compile("\\b(Integer|Long|Math|System|Arrays|List|String|Character|Boolean)\\.\\w+\\(?")
+                .matcher(code().replaceAll("import [^;]*;", ""));
+        while (used.find()) {
+            Kit.due("of the library: " + used.group(), used.group().matches(allowed), true);
+        }
+    }
+
+    /** Rule 9: what a loop counts against is not moved away by what the loop does, or another bound stands beside it. */
+    private static void loops() throws Exception {
+        String code = code();
+        Matcher loop = Pattern.compile("\\b(for|while) (?=\\()").matcher(code);
+        int loops = 0;
+        while (loop.find()) {
+            int open = loop.end();
+            int close = closing(code, open, '(', ')');
+            String head = code.substring(open + 1, close);
+            String test = loop.group(1).equals("for") ? head.split(";", -1)[1] : head;
+            String step = loop.group(1).equals("for") ? head.split(";", -1)[2] : "";
+            String done = step + ";" + test + ";" + code.substring(close, closing(code, code.indexOf('{', close), '{', '}'));
+            Kit.due("an end of the loop that can be seen: " + head, hasEnd(test, withCalls(code, done)), true);
+            loops++;
+        }
+        Kit.due("loops", loops > 50, true);
+    }
+
+    private static boolean hasEnd(String test, String done) {
+        for (String part : test.split("&&")) {
+            Matcher counted = Pattern.compile("^ *(\\w+) [<>]=? (.+?) *$").matcher(part);
+            if (counted.find()) {
+                boolean moves = false;
+                for (String name : counted.group(2).split("\\W+")) {
+                    moves |= Pattern.compile("(?<![.\\w])" + name + "(\\+\\+| [-+*/|&]?= )").matcher(done).find();
+                }
+                if (!moves) {
+                    return true;
+                }
+            }
+        }
+        return false;
+    }
+
+    /** A piece of code, with all methods of the class that it calls, and that these call. */
+    private static String withCalls(String code, String piece) {
+        StringBuilder all = new StringBuilder(piece);
+        Set<String> seen = new TreeSet<>();
+        for (int at = 0; at < all.length();) {
+            Matcher call = Pattern.compile("\\b(\\w+)\\(").matcher(all);
+            if (!call.find(at)) {
+                break;
+            }
+            at = call.end();
+            if (seen.add(call.group(1))) {
+                Matcher method = Pattern.compile("\\w+ " + call.group(1) + "\\([^)]*\\) \\{").matcher(code);
+                while (method.find()) {
+                    all.append(';').append(code, method.end(), closing(code, method.end() - 1, '{', '}'));
+                }
+            }
+        }
+        return all.toString();
+    }
+
+    private static int closing(String code, int from, char open, char close) {
+        int depth = 0;
+        for (int i = from; i < code.length(); i++) {
+            depth += code.charAt(i) == open ? 1 : code.charAt(i) == close ? -1 : 0;
+            if (depth == 0) {
+                return i;
+            }
+        }
+        return code.length() - 1;
+    }
+
+    /** All calls of a run live in one room: objects are made with the object itself, by no call. */
+    private static void nothingIsMade() throws Exception {
+        String code = code();
+        int made = code.indexOf("public TwoKings() {");
+        int end = closing(code, code.indexOf('{', made), '{', '}');
+        String rest = (code.substring(0, made) + code.substring(end))
+                .replaceAll("(?m)^ +private (static )?final [^;(]* = new [^;]*;$", "");
+        Matcher makes = Pattern.compile("(?m)^.*\\bnew\\b.*$").matcher(rest);
+        while (makes.find()) {
+            Kit.due("made by a call: " + makes.group().strip(), true, false);
         }
     }
 
